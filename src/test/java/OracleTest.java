@@ -7,10 +7,11 @@ import java.util.Random;
 /**
  * Long random runs against a second notebook, written over real Java arrays and
  * java.lang.reflect.Array: the machine's own reflection decides there what widens to what.
- * The class has no limit of calls, so the runs look after each call and go beyond the 512th.
+ * No notebook gets more than the 512 calls that the document promises. So a run is made again
+ * for each part of what is looked at when it ends.
  */
 public final class OracleTest {
-    private static final int RUNS = 6000, CALLS = 512;
+    private static final int RUNS = 3000, CALLS = 512, LAST_LOOK = 200, PARTS = 7;
 
     static class Stone {
         final int number;
@@ -487,11 +488,14 @@ public final class OracleTest {
     private final Model model = new Model();
     /** A run keeps to few columns and small numbers, or calls would seldom bear on one another. */
     private final int columns;
+    private final boolean looking;
     private final StringBuilder log = new StringBuilder();
+    private int calls = 0;
 
     private OracleTest(long seed) {
         random = new Random(seed);
         columns = 2 + random.nextInt(9);
+        looking = random.nextBoolean();
     }
 
     private static final int[] ODD = {Integer.MIN_VALUE, Integer.MAX_VALUE, -1, -2, -5, 100, 1000, 25, 30, -24, 1 << 16};
@@ -528,6 +532,7 @@ public final class OracleTest {
     }
 
     private boolean step(String call, long got, long want) {
+        calls++;
         log.append(call).append(" answered ").append(got).append('\n');
         if (got != want) {
             log.append("  due is ").append(want).append('\n');
@@ -628,57 +633,107 @@ public final class OracleTest {
         }
     }
 
-    /** Everything that can be seen at the end of a run without an access. */
-    private boolean finalLook() {
-        boolean right = looks();
+    /** Looks at one part of everything that can be seen; the last parts are two columns each. */
+    private boolean lastLook(int part) {
+        if (part == 0) {
+            return looks() & seesCounts() & seesPairs();
+        }
+        if (part == 1) {
+            return seesSame();
+        }
+        int column = 2 * (part - 2);
+        return seesElements(column) & seesElements(column + 1);
+    }
+
+    private boolean seesCounts() {
+        boolean right = true;
         for (int what = 0; what < 20; what++) {
             right &= step("count(" + what + ")", book.count(what), model.count(what));
-        }
-        for (int i = 0; i < 25; i++) {
-            right &= step("pair(" + i + ", 0)", book.pair(i, 0), model.pair(i, 0));
-            right &= step("pair(" + i + ", 1)", book.pair(i, 1), model.pair(i, 1));
         }
         for (int asker = 0; asker < 19; asker++) {
             for (int answer = 0; answer < 6; answer++) {
                 right &= step("met(" + asker + ", " + answer + ")", book.met(asker, answer), model.met(asker, answer));
             }
         }
+        return right;
+    }
+
+    private boolean seesPairs() {
+        boolean right = true;
+        for (int i = 0; i < 25; i++) {
+            right &= step("pair(" + i + ", 0)", book.pair(i, 0), model.pair(i, 0));
+            right &= step("pair(" + i + ", 1)", book.pair(i, 1), model.pair(i, 1));
+        }
+        return right;
+    }
+
+    private boolean seesSame() {
+        boolean right = true;
         for (int c = 0; c < 10; c++) {
             for (int d = 0; d < 10; d++) {
                 right &= step("same(" + c + ", " + d + ")", book.same(c, d), model.same(c, d));
-            }
-            for (int i = 0; i < 24; i++) {
-                right &= step("take(" + c + ", " + i + ")", book.take(c, i), model.take(c, i)) & looks();
             }
         }
         return right;
     }
 
-    private boolean run() {
+    private boolean seesElements(int column) {
+        boolean right = true;
+        for (int i = 0; i < 24; i++) {
+            right &= step("take(" + column + ", " + i + ")", book.take(column, i), model.take(column, i));
+            for (int what = 0; what < 3; what++) {
+                right &= step("inHand(" + what + ")", book.inHand(what), model.inHand(what));
+            }
+        }
+        return right;
+    }
+
+    /** Makes stones until few are left, or no run would come to the last one. */
+    private boolean useUpStones() {
+        boolean right = true;
+        for (int i = 0; i < 58; i++) {
+            right &= step("hand(9, " + i + ")", book.hand(9, i), model.hand(9, i));
+        }
+        return right;
+    }
+
+    /** A run that ends with a look at this part, or goes on to the last call if it is PARTS. */
+    private boolean run(int part) {
+        int last = part < PARTS ? CALLS - LAST_LOOK : CALLS;
         try {
-            for (int n = 0; n < CALLS; n++) {
-                if (!call() || !looks()) {
+            if (random.nextInt(5) == 0 && !useUpStones()) {
+                return false;
+            }
+            // A call with its looks is at most six calls of the book.
+            while (calls + 6 <= last) {
+                if (!call() || (looking && !looks())) {
                     return false;
                 }
             }
-            return finalLook();
+            return part == PARTS || lastLook(part);
         } catch (RuntimeException e) {
             log.append("  threw ").append(e).append('\n');
             return false;
         }
     }
 
+    private static void fail(int seed, OracleTest test) {
+        String log = test.log.toString();
+        System.out.println("run " + seed + " ends so:\n" + log.substring(Math.max(0, log.length() - 4000)));
+        System.exit(1);
+    }
+
     public static void main(String[] args) {
         int[] answered = new int[120];
         for (int seed = 1; seed <= RUNS; seed++) {
-            OracleTest test = new OracleTest(seed);
-            if (!test.run()) {
-                String log = test.log.toString();
-                System.out.println("run " + seed + " ends so:\n" + log.substring(Math.max(0, log.length() - 4000)));
-                System.exit(1);
-            }
-            for (int i = 0; i < 114; i++) {
-                answered[i] += test.book.met(i / 6, i % 6);
+            for (int part = 0; part <= PARTS; part++) {
+                OracleTest test = new OracleTest(seed);
+                if (!test.run(part)) {
+                    fail(seed, test);
+                }
+                for (int i = 0; i < 114; i++) {
+                    answered[i] += test.model.met[i / 6][i % 6];
+                }
             }
         }
         // The runs are worth little if they do not come to each answer that an access can have.
